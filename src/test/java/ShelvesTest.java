@@ -122,6 +122,9 @@ public final class ShelvesTest {
         Due.due("element(-1, 0)", x.element(-1, 0), 0);
         x.show(0, 0);
         Due.due("an OFFICE now", x.element(0, 0), 0);
+        x.row(3, 3, 60);
+        Due.due("behind a full ROW", x.element(3, 60), 0);
+        Due.due("far behind it", x.element(3, Integer.MAX_VALUE), 0);
         Due.refusals("element", x, 0, 0, 0, 0, 0, 0, 0);
     }
 

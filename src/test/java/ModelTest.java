@@ -1,0 +1,256 @@
+import java.lang.reflect.InvocationTargetException;
+import java.lang.reflect.Method;
+import java.util.ArrayList;
+import java.util.List;
+import java.util.Map;
+import java.util.TreeMap;
+
+/** Runs of calls drawn by a fixed row of numbers: the program answers as the model does. */
+public final class ModelTest {
+    private static final int RUNS = 1500;
+    private static final long[] WILD = {Integer.MIN_VALUE, Integer.MAX_VALUE, -2, -1, 0, 1, 2, 5, 60, 61, 1000,
+        1L << 32, -1L << 40, Long.MIN_VALUE, Long.MAX_VALUE};
+
+    private final Map<String, Method> methods = new TreeMap<>();
+    private final List<String> names = new ArrayList<>(Model.CALLS.keySet());
+    private final List<String> done = new ArrayList<>();
+    private long seed;
+    private CapitalMoved program;
+    private Model model;
+    private boolean same;
+
+    private ModelTest() {
+        for (Method method : CapitalMoved.class.getDeclaredMethods()) {
+            methods.put(method.getName(), method);
+        }
+    }
+
+    public static void main(String[] args) throws ReflectiveOperationException {
+        ModelTest test = new ModelTest();
+        int bad = 0;
+        for (int run = 0; run < RUNS && bad < 5; run++) {
+            bad += test.run(run) ? 0 : 1;
+        }
+        Due.due("runs that went otherwise", bad, 0);
+        Due.end();
+    }
+
+    private boolean run(int number) throws ReflectiveOperationException {
+        seed = 77_777L * number + 13;
+        program = new CapitalMoved();
+        model = new Model();
+        same = true;
+        done.clear();
+        int style = draw(4);
+        found(style);
+        int calls = 40 + draw(120);
+        for (int n = 0; n < calls && same; n++) {
+            if (style == 3 && draw(2) == 0) {
+                wild();
+            } else {
+                ordinary();
+            }
+            if (n % 8 == 0) {
+                lookAround();
+            }
+        }
+        lookAround();
+        return same;
+    }
+
+    private int draw(int n) {
+        seed = seed * 6364136223846793005L + 1442695040888963407L;
+        return (int) Long.remainderUnsigned(seed >>> 33, n);
+    }
+
+    private long call(String name, long... a) throws ReflectiveOperationException {
+        if (!same) {
+            return 0;
+        }
+        StringBuilder text = new StringBuilder(name).append('(');
+        for (long n : a) {
+            text.append(n).append(' ');
+        }
+        long want = model.call(name, a);
+        long got = 0;
+        try {
+            got = ((Number) methods.get(name).invoke(program, boxed(methods.get(name), a))).longValue();
+        } catch (InvocationTargetException e) {
+            same = false;
+            text.append(" threw ").append(e.getCause());
+        }
+        done.add(text.append(") ").append(got).toString());
+        if (got != want || !same) {
+            same = false;
+            System.out.println(String.join("\n", done) + ", due is " + want + "\n");
+        }
+        return got;
+    }
+
+    private static Object[] boxed(Method method, long[] a) {
+        Object[] values = new Object[a.length];
+        for (int i = 0; i < a.length; i++) {
+            Class<?> type = method.getParameterTypes()[i];
+            if (type == long.class) {
+                values[i] = a[i];
+            } else if (type == boolean.class) {
+                values[i] = (int) a[i] == 1;
+            } else {
+                values[i] = (int) a[i];
+            }
+        }
+        return values;
+    }
+
+    /** Offices and all they need: little or much of it by the style of the run. */
+    private void found(int style) throws ReflectiveOperationException {
+        int offices = style == 0 ? 1 + draw(4) : 3 + draw(8);
+        for (int k = 0; k < offices; k++) {
+            call("office", 1 + draw(style == 1 ? 40 : 20), draw(10));
+        }
+        for (int a = 0; a < offices; a++) {
+            for (int b = 0; b < a; b++) {
+                if (draw(3) != 0) {
+                    call("tie", a, b, draw(21));
+                }
+            }
+        }
+        for (int k = draw(6); k >= 0; k--) {
+            call("building", 1 + draw(120), draw(5));
+        }
+        int children = draw(3);
+        for (int kind = 0; kind < 3; kind++) {
+            int scale = 1 + draw(40);
+            call("kind", kind, 0, draw(scale));
+            call("kind", kind, 1, draw(scale));
+            call("kind", kind, 2, children == kind ? 0 : draw(scale));
+            call("kind", kind, 3, draw(60));
+            call("kind", kind, 4, draw(101));
+            for (int k = 0; k < offices; k++) {
+                if (draw(3) != 0) {
+                    call("folk", k, kind, draw(style == 2 ? 41 : 6));
+                }
+            }
+        }
+        for (int wave = 0; wave < 5; wave++) {
+            call("ready", wave, 0, draw(style == 2 ? 401 : 60));
+            call("ready", wave, 1, draw(style == 2 ? 401 : 60));
+        }
+        if (draw(2) == 0) {
+            call("limit", 0, 10 + draw(90));
+        }
+        if (draw(2) == 0) {
+            call("limit", 1, draw(30));
+        }
+        if (draw(2) == 0) {
+            call("limit", 2, draw(90));
+        }
+        for (int k = draw(6); k >= 0 && offices > 6; k--) {
+            call("stay", draw(offices), 1);
+        }
+    }
+
+    private void ordinary() throws ReflectiveOperationException {
+        switch (draw(24)) {
+            case 0, 1 -> call("give", draw(10), draw(6) - 1);
+            case 2 -> call("stay", draw(10), draw(2));
+            case 3, 4 -> call("plan", draw(2));
+            case 5 -> call("plan", draw(5) == 0 ? 2 + draw(3) : draw(2));
+            case 6 -> call("begin");
+            case 7, 8 -> liveOne();
+            case 9, 10 -> layDown();
+            case 11 -> call("vote", draw(6), draw(20), draw(10), draw(10), draw(10));
+            case 12 -> call("late", draw(6), draw(5));
+            case 13 -> call("tie", draw(10), draw(10), draw(21));
+            case 14 -> call("file", draw(10));
+            case 15 -> call("road", draw(12));
+            case 16 -> call("embassy", draw(10));
+            case 17 -> call("palace", draw(36));
+            case 18 -> giveAll();
+            case 19 -> call("copy", draw(3), draw(3), draw(8), draw(8), draw(8));
+            case 20 -> call("show", draw(8), draw(11) - 1);
+            case 21 -> call("desksIn", draw(8));
+            case 22 -> call("set", draw(8), draw(20), 40L * draw(100) - 2000);
+            default -> call("row", draw(8), draw(4), draw(10));
+        }
+    }
+
+    private void liveOne() throws ReflectiveOperationException {
+        if (call("next") < 0 && call("status", 10) == 1) {
+            call("plan", 0);
+            call("next");
+        }
+    }
+
+    private void layDown() throws ReflectiveOperationException {
+        StringBuilder text = new StringBuilder();
+        text.append(draw(2) == 0 ? "a" : "o" + draw(10)).append('m').append(draw(40)).append('f').append(draw(5));
+        if (draw(3) == 0) {
+            text.setCharAt(draw(text.length()), "aomf0123456789x".charAt(draw(15)));
+        }
+        if (draw(6) == 0) {
+            text.setLength(draw(text.length()));
+        }
+        int s = draw(8);
+        call("row", s, draw(4), text.length());
+        for (int i = 0; i < text.length(); i++) {
+            call("set", s, i, text.charAt(i));
+        }
+        call("law", s);
+        call("vote", call("status", 4) - 1, 2, 1, 1, 0);
+    }
+
+    private void giveAll() throws ReflectiveOperationException {
+        int s = draw(8);
+        int offices = (int) call("status", 0);
+        long now = call("status", 9);
+        call("row", s, draw(4), Math.max(0, offices - 1 + draw(10)));
+        for (int k = 0; k < offices; k++) {
+            long has = call("wave", k);
+            call("set", s, k, draw(3) == 0 || has >= 0 && has < now ? has : draw(6) - 1);
+        }
+        call("gives", s);
+    }
+
+    private void wild() throws ReflectiveOperationException {
+        String name = names.get(draw(names.size()));
+        long[] a = new long[Model.CALLS.get(name)];
+        for (int i = 0; i < a.length; i++) {
+            a[i] = draw(3) == 0 ? WILD[draw(WILD.length)] : draw(12) - 1;
+        }
+        if (name.equals("plan") && a[0] > 1 && a[0] < 4 && draw(8) != 0) {
+            a[0] = 0;
+        }
+        call(name, a);
+    }
+
+    private void lookAround() throws ReflectiveOperationException {
+        for (int what = -1; what <= 22; what++) {
+            call("status", what);
+        }
+        for (int k = 0; k < 10; k++) {
+            call("wave", k);
+            call("plot", k);
+            for (int what = 0; what < 4; what++) {
+                call("people", k, what);
+            }
+        }
+        for (int wave = -1; wave <= 5; wave++) {
+            call("cut", wave);
+            call("town", wave);
+            call("pay", draw(10), wave);
+        }
+        call("cost");
+        call("legal");
+        call("fault");
+        for (int s = 0; s < 8; s++) {
+            call("holds", s);
+            for (int i = 0; i < 12; i++) {
+                call("element", s, i);
+            }
+        }
+        for (int file = 0; file < 12; file++) {
+            call("days", file, draw(10));
+        }
+    }
+}

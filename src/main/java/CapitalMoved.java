@@ -842,8 +842,6 @@ public final class CapitalMoved {
 
         void read(Shelves shelves, int s) {
             owner = NONE;
-            number = 0;
-            firstWave = 0;
             latestFault = NONE;
             int state = START;
             int size = shelves.length[s];
@@ -1069,7 +1067,7 @@ public final class CapitalMoved {
 
         /** An office more (sign 1) or less (-1) in a wave; NEVER: none asks anything. */
         void change(int office, int wave, int sign) {
-            if (!isWave(wave)) {
+            if (wave < 0 || wave >= WAVES) {
                 return;
             }
             desksGoing[wave] += sign * desks[office];
@@ -1105,6 +1103,8 @@ public final class CapitalMoved {
     private static final class Planner {
         // Above every cost (45 ties of 20, cut in 5 waves): one change weighs more than all cuts.
         private static final int ONE_CHANGE = 10_000;
+        // Above every price: 6 changes and the greatest cost.
+        private static final int NO_PRICE = 1_000_000;
         // Each round lessens the cost, which is 4,500 at most.
         private static final int MOST_ROUNDS = 5_000;
 
@@ -1259,10 +1259,10 @@ public final class CapitalMoved {
         }
 
         private boolean makeBest(Offices offices, boolean mending) {
-            leastPrice = Integer.MAX_VALUE;
+            leastPrice = NO_PRICE;
             changePrice = mending ? ONE_CHANGE : 0;
             search(this, offices, 0, 0);
-            if (leastPrice == Integer.MAX_VALUE) {
+            if (leastPrice == NO_PRICE) {
                 return false;
             }
             System.arraycopy(best, 0, trial, 0, MAX_OFFICES);

@@ -35,6 +35,7 @@ public final class LanguageTest {
         nestedClasses();
         namesOfMethods();
         text();
+        library();
         methodsAreShort();
         Due.end();
     }
@@ -134,6 +135,20 @@ public final class LanguageTest {
                     ? pattern : pattern + "\\b";
             Matcher found = Pattern.compile(whole).matcher(code);
             Due.isTrue("does not say " + word, !found.find());
+        }
+    }
+
+    /** What stands behind the name of a class and a point: of the library only what is listed. */
+    private static void library() throws IOException {
+        Set<String> allowed = new TreeSet<>(List.of("System.arraycopy", "Math.abs", "Math.max", "Math.min"));
+        Set<String> own = new TreeSet<>();
+        for (Class<?> one : CapitalMoved.class.getDeclaredClasses()) {
+            own.add(one.getSimpleName());
+        }
+        Matcher found = Pattern.compile("\\b([A-Z][a-z]\\w*)\\.(\\w+)").matcher(code());
+        while (found.find()) {
+            boolean is = own.contains(found.group(1)) || allowed.contains(found.group());
+            Due.isTrue("of the library: " + found.group(), is);
         }
     }
 

@@ -1,17 +1,19 @@
-import java.lang.reflect.InvocationTargetException;
-import java.lang.reflect.Method;
 import java.util.ArrayList;
 import java.util.List;
-import java.util.Map;
-import java.util.TreeMap;
 
-/** Runs of calls drawn by a fixed row of numbers: the program answers as the model does. */
+/**
+ * Runs of calls drawn by a fixed row of numbers, each of at most 512 calls: the program answers as
+ * the model does.
+ */
 public final class ModelTest {
-    private static final int RUNS = 1500;
+    private static final int RUNS = 3000;
+    private static final int MOST_CALLS = 512;
+    // What one thing that is drawn, or the look at all of it behind the run, asks at most.
+    private static final int ONE_THING = 40;
+    private static final int LOOK_AROUND = 240;
     private static final long[] WILD = {Integer.MIN_VALUE, Integer.MAX_VALUE, -2, -1, 0, 1, 2, 5, 60, 61, 1000,
         1L << 32, -1L << 40, Long.MIN_VALUE, Long.MAX_VALUE};
 
-    private final Map<String, Method> methods = new TreeMap<>();
     private final List<String> names = new ArrayList<>(Model.CALLS.keySet());
     private final List<String> done = new ArrayList<>();
     private long seed;
@@ -20,12 +22,9 @@ public final class ModelTest {
     private boolean same;
 
     private ModelTest() {
-        for (Method method : CapitalMoved.class.getDeclaredMethods()) {
-            methods.put(method.getName(), method);
-        }
     }
 
-    public static void main(String[] args) throws ReflectiveOperationException {
+    public static void main(String[] args) {
         ModelTest test = new ModelTest();
         int bad = 0;
         for (int run = 0; run < RUNS && bad < 5; run++) {
@@ -35,26 +34,28 @@ public final class ModelTest {
         Due.end();
     }
 
-    private boolean run(int number) throws ReflectiveOperationException {
+    private boolean run(int number) {
         seed = 77_777L * number + 13;
         program = new CapitalMoved();
         model = new Model();
         same = true;
         done.clear();
         int style = draw(4);
+        boolean looksAround = draw(2) == 0;
+        int rest = ONE_THING + (looksAround ? LOOK_AROUND : 0);
         found(style);
-        int calls = 40 + draw(120);
-        for (int n = 0; n < calls && same; n++) {
+        while (same && done.size() + rest <= MOST_CALLS) {
             if (style == 3 && draw(2) == 0) {
                 wild();
             } else {
                 ordinary();
             }
-            if (n % 8 == 0) {
-                lookAround();
-            }
+            glance();
         }
-        lookAround();
+        if (looksAround) {
+            lookAround();
+        }
+        Due.isTrue("at most 512 calls", done.size() <= MOST_CALLS);
         return same;
     }
 
@@ -63,47 +64,22 @@ public final class ModelTest {
         return (int) Long.remainderUnsigned(seed >>> 33, n);
     }
 
-    private long call(String name, long... a) throws ReflectiveOperationException {
+    private long call(String name, long... a) {
         if (!same) {
             return 0;
         }
-        StringBuilder text = new StringBuilder(name).append('(');
-        for (long n : a) {
-            text.append(n).append(' ');
-        }
         long want = model.call(name, a);
-        long got = 0;
-        try {
-            got = ((Number) methods.get(name).invoke(program, boxed(methods.get(name), a))).longValue();
-        } catch (InvocationTargetException e) {
-            same = false;
-            text.append(" threw ").append(e.getCause());
-        }
-        done.add(text.append(") ").append(got).toString());
-        if (got != want || !same) {
+        long got = Calls.ask(program, name, a);
+        done.add(Calls.text(name, a) + " " + got);
+        if (got != want) {
             same = false;
             System.out.println(String.join("\n", done) + ", due is " + want + "\n");
         }
         return got;
     }
 
-    private static Object[] boxed(Method method, long[] a) {
-        Object[] values = new Object[a.length];
-        for (int i = 0; i < a.length; i++) {
-            Class<?> type = method.getParameterTypes()[i];
-            if (type == long.class) {
-                values[i] = a[i];
-            } else if (type == boolean.class) {
-                values[i] = (int) a[i] == 1;
-            } else {
-                values[i] = (int) a[i];
-            }
-        }
-        return values;
-    }
-
     /** Offices and all they need: little or much of it by the style of the run. */
-    private void found(int style) throws ReflectiveOperationException {
+    private void found(int style) {
         int offices = style == 0 ? 1 + draw(4) : 3 + draw(8);
         for (int k = 0; k < offices; k++) {
             call("office", 1 + draw(style == 1 ? 40 : 20), draw(10));
@@ -150,7 +126,7 @@ public final class ModelTest {
         }
     }
 
-    private void ordinary() throws ReflectiveOperationException {
+    private void ordinary() {
         switch (draw(24)) {
             case 0, 1 -> call("give", draw(10), draw(6) - 1);
             case 2 -> call("stay", draw(10), draw(2));
@@ -175,14 +151,14 @@ public final class ModelTest {
         }
     }
 
-    private void liveOne() throws ReflectiveOperationException {
+    private void liveOne() {
         if (call("next") < 0 && call("status", 10) == 1) {
             call("plan", 0);
             call("next");
         }
     }
 
-    private void layDown() throws ReflectiveOperationException {
+    private void layDown() {
         StringBuilder text = new StringBuilder();
         text.append(draw(2) == 0 ? "a" : "o" + draw(10)).append('m').append(draw(40)).append('f').append(draw(5));
         if (draw(3) == 0) {
@@ -200,7 +176,7 @@ public final class ModelTest {
         call("vote", call("status", 4) - 1, 2, 1, 1, 0);
     }
 
-    private void giveAll() throws ReflectiveOperationException {
+    private void giveAll() {
         int s = draw(8);
         int offices = (int) call("status", 0);
         long now = call("status", 9);
@@ -212,7 +188,7 @@ public final class ModelTest {
         call("gives", s);
     }
 
-    private void wild() throws ReflectiveOperationException {
+    private void wild() {
         String name = names.get(draw(names.size()));
         long[] a = new long[Model.CALLS.get(name)];
         for (int i = 0; i < a.length; i++) {
@@ -224,7 +200,24 @@ public final class ModelTest {
         call(name, a);
     }
 
-    private void lookAround() throws ReflectiveOperationException {
+    /** Three questions about what the last call may have changed. */
+    private void glance() {
+        for (int n = 0; n < 3; n++) {
+            switch (draw(10)) {
+                case 0, 1 -> call("status", draw(22));
+                case 2 -> call("wave", draw(10));
+                case 3 -> call("people", draw(10), draw(4));
+                case 4 -> call("town", draw(5));
+                case 5 -> call("cut", draw(5));
+                case 6 -> call("cost");
+                case 7 -> call("legal");
+                case 8 -> call("days", draw(6), draw(10));
+                default -> call("plot", draw(10));
+            }
+        }
+    }
+
+    private void lookAround() {
         for (int what = -1; what <= 22; what++) {
             call("status", what);
         }

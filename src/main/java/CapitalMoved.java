@@ -1232,7 +1232,7 @@ public final class CapitalMoved {
         private void tryExchanges(Offices offices) {
             for (int a = 0; a < offices.count; a++) {
                 for (int b = a + 1; b < offices.count; b++) {
-                    if (offices.isFree(a) && offices.isFree(b) && trial[a] != trial[b]) {
+                    if (offices.isFree(a) && offices.isFree(b)) {
                         exchange(a, b);
                         if (isBetter(offices)) {
                             changed = a;

@@ -297,8 +297,15 @@ public final class EdgesOfPlansTest {
         most.did("building", 30, 0).did("limit", 0, 10).did("give", 0, 0).did("tie", 0, 2, 1).did("tie", 0, 1, 1);
         live(most, 2);
         most.due(5, "plan", 1).waves(0, 2, 3);
+        Run second = offices("BY SWAPS: none exchanges with MOVED OFFICES", 10, 10, 10);
+        second.did("building", 30, 0).did("limit", 0, 10).did("give", 2, 0).did("tie", 1, 2, 1);
+        live(second, 2);
+        // 0 and 1 exchanged cost 2; office 2, if it weren't MOVED, would exchange with 0 at 1.
+        second.due(3, "plan", 0).waves(2, 3, 0).due(2, "plan", 1).waves(3, 2, 0);
         Run stays = offices("BY SWAPS: what STAYS exchanges with none", 10, 10);
         stays.did("building", 30, 0).did("stay", 0, 1).did("tie", 0, 1, 1).due(1, "plan", 1).waves(-1, 4);
+        Run with = offices("BY SWAPS: none exchanges with what STAYS", 10, 10, 10);
+        with.did("building", 30, 0).did("stay", 1, 1).did("tie", 1, 2, 1).due(1, "plan", 1).waves(0, -1, 4);
     }
 
     private static void swapsNeedARule() {

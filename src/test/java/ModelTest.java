@@ -11,8 +11,8 @@ public final class ModelTest {
     // What one thing that is drawn, or the look at all of it behind the run, asks at most.
     private static final int ONE_THING = 40;
     private static final int LOOK_AROUND = 240;
-    private static final long[] WILD = {Integer.MIN_VALUE, Integer.MAX_VALUE, -2, -1, 0, 1, 2, 5, 60, 61, 1000,
-        1L << 32, -1L << 40, Long.MIN_VALUE, Long.MAX_VALUE};
+    private static final long[] WILD = {Integer.MIN_VALUE, Integer.MAX_VALUE, -2, -1, 0, 1, 2, 5, 9, 10, 20, 21,
+        36, 40, 41, 60, 61, 100, 101, 120, 121, 400, 401, 1000, 1001, 1L << 32, -1L << 40, Long.MIN_VALUE, Long.MAX_VALUE};
 
     private final List<String> names = new ArrayList<>(Model.CALLS.keySet());
     private final List<String> done = new ArrayList<>();
@@ -123,6 +123,19 @@ public final class ModelTest {
         }
         for (int k = draw(6); k >= 0 && offices > 6; k--) {
             call("stay", draw(offices), 1);
+        }
+        if (draw(8) == 0) {
+            fill();
+        }
+    }
+
+    /** As many of them as there may be, and one more. */
+    private void fill() {
+        for (int k = 0; k < 11; k++) {
+            call("embassy", draw(10));
+        }
+        for (int k = 0; k < 13; k++) {
+            call("file", draw(3));
         }
     }
 
